@@ -1,15 +1,5 @@
 /** A test for each promise of the document: ordinary inputs, the named edges, wrong inputs, and the order of errors. */
-public final class PromiseTests {
-    private static final int NO_SUCH_INDEX = -1;
-    private static final int BAD_VALUE = -2;
-    private static final int NOT_POSSIBLE = -3;
-    private static final int FULL = -4;
-    private static final int NONE = -9;
-    private static final int LOW = Integer.MIN_VALUE;
-    private static final int HIGH = Integer.MAX_VALUE;
-
-    private final Check check = new Check();
-
+public final class PromiseTests extends Section {
     private PromiseTests() {
     }
 
@@ -82,39 +72,6 @@ public final class PromiseTests {
     private void slotPromises() {
         save();
         restore();
-    }
-
-    private void due(String call, long got, long want) {
-        check.due(call, got, want);
-    }
-
-    private static PowerDiagram withText(String text) {
-        PowerDiagram d = new PowerDiagram();
-        write(d, text);
-        return d;
-    }
-
-    private static void write(PowerDiagram d, String text) {
-        for (int k = 0; k < text.length(); k++) {
-            d.append(text.charAt(k));
-        }
-    }
-
-    /** Triples of x, y and weight. */
-    private static PowerDiagram withSites(int... values) {
-        PowerDiagram d = new PowerDiagram();
-        for (int k = 0; k + 2 < values.length; k += 3) {
-            d.add(values[k], values[k + 1], values[k + 2]);
-        }
-        return d;
-    }
-
-    private static PowerDiagram tenSites() {
-        PowerDiagram d = new PowerDiagram();
-        for (int k = 0; k < 10; k++) {
-            d.add(2 * k, 10, 0);
-        }
-        return d;
     }
 
     // ---- promise 1
@@ -547,16 +504,6 @@ public final class PromiseTests {
         PowerDiagram hidden = withSites(10, 10, 0, 0, 10, 100, 20, 10, 100);
         due("end of a segment", corner(numerator, hidden, 0, 0, 0), NO_SUCH_INDEX);
         due("end of a segment, bad axis", corner(numerator, hidden, 0, 0, 2), NO_SUCH_INDEX);
-    }
-
-    private void dueCorners(PowerDiagram d, int i, int... coordinates) {
-        due("corners", d.cornerCount(i), coordinates.length / 4);
-        for (int k = 0; 4 * k + 3 < coordinates.length; k++) {
-            due("x up of " + k, d.cornerNumerator(i, k, 0), coordinates[4 * k]);
-            due("x down of " + k, d.cornerDenominator(i, k, 0), coordinates[4 * k + 1]);
-            due("y up of " + k, d.cornerNumerator(i, k, 1), coordinates[4 * k + 2]);
-            due("y down of " + k, d.cornerDenominator(i, k, 1), coordinates[4 * k + 3]);
-        }
     }
 
     private void cornerOrder() {
