@@ -3,6 +3,8 @@ import java.util.Random;
 /** Runs of up to 512 calls with fixed seeds, each answer compared with that of ReferenceDiagram. */
 public final class RandomRunsTests {
     private static final int CALLS = 512;
+    // Writing a text of more than ten sites and loading it; nothing else takes so many calls.
+    private static final int MOST_AT_ONCE = 90;
     private static final int[] EXTREMES = {
         Integer.MIN_VALUE, Integer.MIN_VALUE + 1, -1000, -1, 21, 401, 442, 1000, Integer.MAX_VALUE - 1, Integer.MAX_VALUE,
     };
@@ -33,10 +35,10 @@ public final class RandomRunsTests {
 
     private void run() {
         int wanted = random.nextInt(11);
-        while (own.siteCount() < wanted) {
+        while (other.siteCount() < wanted) {
             add();
         }
-        while (calls < CALLS) {
+        while (calls + MOST_AT_ONCE <= CALLS) {
             int kind = random.nextInt(20);
             if (kind == 0) {
                 writeText();
@@ -79,7 +81,7 @@ public final class RandomRunsTests {
         if (seldom()) {
             return extreme();
         }
-        return random.nextInt(Math.max(1, own.siteCount()) + (seldom() ? 1 : 0));
+        return random.nextInt(Math.max(1, other.siteCount()) + (seldom() ? 1 : 0));
     }
 
     private int choice(int choices) {
@@ -193,7 +195,7 @@ public final class RandomRunsTests {
         for (int n = random.nextInt(4); n > 0; n--) {
             int x = coordinate();
             int y = coordinate();
-            int o = random.nextInt(5) == 0 ? choice(10) : own.owner(x, y);
+            int o = random.nextInt(5) == 0 ? choice(10) : other.owner(x, y);
             due("observe " + x + " " + y + " " + o, own.observe(x, y, o), other.observe(x, y, o));
         }
         for (int what = 0; what < 3; what++) {
@@ -214,7 +216,7 @@ public final class RandomRunsTests {
     }
 
     private int group() {
-        int i = 1000 * random.nextInt(Math.max(1, own.siteCount()));
+        int i = 1000 * random.nextInt(Math.max(1, other.siteCount()));
         int x = random.nextInt(21);
         int y = random.nextInt(21);
         switch (random.nextInt(14)) {
